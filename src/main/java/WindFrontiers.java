@@ -15,7 +15,6 @@ public final class WindFrontiers {
     private static final int FAMILIES = 5;
     private static final int MOST_BYTE = 255;
     private static final int MOST_TEXT = 150;
-    private static final int MOST_NUMBER = 99;
     private static final int MOST_UNDONE = 10;
     private static final int MOST_SEEN = 6;
     private static final int MOST_TURNING = 10;
@@ -621,6 +620,7 @@ public final class WindFrontiers {
     /** Reads THE TEXT into a draft, so that a FAULT changes nothing. FAULT is where the latest TOKEN starts. */
     private static final class Reader {
         private static final int END = 0, LETTERS = 1, NUMBER = 2, STOP = 3, UNKNOWN = 4;
+        private static final int NO_VALUE = -1;
 
         final Text text = new Text();
         final Strand draft = new Strand();
@@ -726,6 +726,7 @@ public final class WindFrontiers {
             return token == NUMBER && value >= least && value <= most;
         }
 
+        /** Letters and NUMBERS of ITEMS are one byte long: longer ones, which can't stand anywhere, have no value. */
         private void readToken() {
             for (int i = 0; i < MOST_TEXT && text.byteAt(place) == ' '; i++) {
                 place++;
@@ -736,25 +737,9 @@ public final class WindFrontiers {
             for (int i = 0; i < most && tokenOf(text.byteAt(place)) == token; i++) {
                 place++;
             }
-            if (token == LETTERS) {
-                endLetters(place - start);
-            } else if (token == NUMBER) {
-                endNumber(place - start);
-            }
-        }
-
-        /** The letters of all ITEMS stand alone: several have no value. */
-        private void endLetters(int length) {
-            value = length == 1 ? text.byteAt(start) : 0;
-        }
-
-        /** More than two digits are above 99, or have a 0 ahead of others. */
-        private void endNumber(int length) {
-            int first = text.byteAt(start) - '0';
-            value = length == 1 ? first : 10 * first + text.byteAt(start + 1) - '0';
-            if (length > 2 || length == 2 && first == 0) {
-                token = UNKNOWN;
-            }
+            int first = text.byteAt(start);
+            int alone = token == NUMBER ? first - '0' : first;
+            value = place - start == 1 ? alone : NO_VALUE;
         }
 
         private static int tokenOf(int c) {

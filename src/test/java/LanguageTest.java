@@ -21,7 +21,7 @@ public final class LanguageTest {
             + "|int type(int)|int undo()|int veers()|int water(int,int,int)|long trace()";
     private static final String[] FORBIDDEN = {
         "\\bpackage\\b", "\\bimport\\b", "\\bthrows?\\b", "\\btry\\b", "\\bcatch\\b", "\\bsynchronized\\b",
-        "\\bassert\\b", "->", "::", "\\bvar\\b", "\\bSystem\\b", "\\bwhile\\b", "\\bequals\\b", "\\bhashCode\\b",
+        "\\bassert\\b", "->", "::", "\\bvar\\b", "\\bSystem\\b", "\\bequals\\b", "\\bhashCode\\b",
         "\\bObject\\b", "\\bdouble\\b", "\\bfloat\\b", "Exact\\b", "\\bstatic\\s*\\{", "@", "[^\\x00-\\x7e]"};
     private static final int MOST_CLASSES = 12;
     private static final int MOST_FIELDS = 20;
@@ -46,6 +46,8 @@ public final class LanguageTest {
         for (Method method : type.getDeclaredMethods()) {
             boolean isPublic = Modifier.isPublic(method.getModifiers());
             DUE.is("public or private: " + method, isPublic || Modifier.isPrivate(method.getModifiers()) ? 1 : 0, 1);
+            boolean isOfFace = FACE.contains(" " + method.getName() + "(");
+            DUE.is("private ones have names of their own: " + method, !isPublic && isOfFace ? 1 : 0, 0);
             if (isPublic) {
                 face.add(method.toString().replace("public ", "").replace("WindFrontiers.", ""));
             }

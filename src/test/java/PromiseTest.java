@@ -229,10 +229,18 @@ public final class PromiseTest {
         fault("c0 0 07;", 5);
         fault("w1 a;", 3);
         fault("w1o;", 2);
+        fault("ga1 1;", 0);
+        fault("gz1 1;", 0);
+        fault("c0 19;", 3);
+        fault("c0 90;", 3);
+        fault("c0 09;", 3);
+        fault("c0 11", 3);
+        fault("o10 0 0;", 1);
+        fault("g5 100;", 3);
     }
 
     private static void strandReadAnew() {
-        WindFrontiers w = told("g5 4;o1 4 3;c0 0;w1;");
+        WindFrontiers w = told("g5 4;o1 4 3;o2 0 0;c4 3;c0 0;w1;");
         w.tide(1);
         w.saw(1, 1, 1, 1);
         w.keep(0);
@@ -251,6 +259,19 @@ public final class PromiseTest {
         DUE.is("back(0) read anew", w.back(0), STATE);
         DUE.is("back(1) read anew", w.back(1), STATE);
         DUE.is("trace() read anew", w.trace(), 100001);
+        afterAFault();
+    }
+
+    private static void afterAFault() {
+        WindFrontiers w = new WindFrontiers();
+        typed(w, "g5 4;o1 0 0;c0 0;w1;x");
+        DUE.is("strand() with a FAULT at the end", w.strand(), -30);
+        DUE.is("clear()", w.clear(), 21);
+        typed(w, "o0 0 0;c0 0;w0;");
+        DUE.is("strand() behind a FAULT", w.strand(), 3);
+        DUE.is("WIDE", w.count(0), 3);
+        DUE.is("held", w.family(0, 0), 1);
+        DUE.is("not held", w.family(1, 0), 0);
     }
 
     private static void cell() {
@@ -536,6 +557,9 @@ public final class PromiseTest {
             DUE.is("water(0, far, 3)", w.water(0, far, 3), BAD);
             DUE.is("water(0, 0, far)", w.water(0, 0, far), BAD);
         }
+        WindFrontiers narrow = told("g1 4;o0 0 1;o1 0 2;o2 0 3;");
+        DUE.is("over three others", narrow.water(3, 0, 3), 3);
+        DUE.is("over two others and its own", narrow.water(1, 0, 3), 2);
         WindFrontiers back = told("g5 4;o0 1 1;o0 1 2;o0 1 3;o0 0 0;o0 3 0;o0 3 1;o0 3 2;o0 2 0;o0 4 0;");
         DUE.is("no way but over one", back.water(1, 2, 1), 1);
         DUE.is("a way up, and down again", back.water(1, 4, 1), 1);
