@@ -133,6 +133,7 @@ public final class PromiseTest {
     private static void strandTold() {
         items("", 0);
         items("     ", 0);
+        items(" ".repeat(150), 0);
         items("g5 4;", 1);
         items("g1 1;", 1);
         items("  g  5   4  ;  ", 1);
