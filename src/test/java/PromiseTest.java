@@ -40,19 +40,6 @@ public final class PromiseTest {
         DUE.end();
     }
 
-    private static void typed(WindFrontiers w, String text) {
-        for (int i = 0; i < text.length(); i++) {
-            w.type(text.charAt(i));
-        }
-    }
-
-    private static WindFrontiers told(String text) {
-        WindFrontiers w = new WindFrontiers();
-        typed(w, text);
-        DUE.is("strand() of " + text + " tells ITEMS: ", Math.min(w.strand(), 0), 0);
-        return w;
-    }
-
     private static void constants() {
         DUE.is("BAD", BAD, -1);
         DUE.is("STATE", STATE, -2);
@@ -107,7 +94,7 @@ public final class PromiseTest {
         for (int i = 0; i < 146; i++) {
             w.type(' ');
         }
-        typed(w, "w 1;");
+        Told.types(w, "w 1;");
         DUE.is("150 bytes", w.count(4), 150);
         DUE.is("strand() of 150 bytes", w.strand(), 1);
         DUE.is("WIND at the text's end", w.now(0), 1);
@@ -116,7 +103,7 @@ public final class PromiseTest {
     private static void clear() {
         WindFrontiers w = new WindFrontiers();
         DUE.is("clear() of nothing", w.clear(), 0);
-        typed(w, "w1;");
+        Told.types(w, "w1;");
         DUE.is("clear()", w.clear(), 3);
         DUE.is("clear() again", w.clear(), 0);
         DUE.is("strand() after clear()", w.strand(), 0);
@@ -125,7 +112,7 @@ public final class PromiseTest {
 
     private static void items(String text, int want) {
         WindFrontiers w = new WindFrontiers();
-        typed(w, text);
+        Told.types(w, text);
         DUE.is("strand() of [" + text + "]", w.strand(), want);
         DUE.is("bytes left of [" + text + "]", w.count(4), 0);
     }
@@ -142,7 +129,7 @@ public final class PromiseTest {
         items("w0;", 1);
         items("w 1 ; o 0 0 0 ;c 0 0;", 3);
         items("g2 1;o0 1 0;o1 0 0;c1 0;w1;", 5);
-        WindFrontiers w = told("g4 2;o3 3 1;o0 0 0;c2 1;w1;");
+        WindFrontiers w = Told.strand("g4 2;o3 3 1;o0 0 0;c2 1;w1;");
         DUE.is("WIDE", w.count(0), 4);
         DUE.is("ROWS", w.count(1), 2);
         DUE.is("held by 3", w.family(3, 0), 1 << 8);
@@ -152,11 +139,11 @@ public final class PromiseTest {
     }
 
     private static void fault(String text, int place) {
-        WindFrontiers w = told("g2 2;o1 1 1;c0 0;w1;");
+        WindFrontiers w = Told.strand("g2 2;o1 1 1;c0 0;w1;");
         w.takes(2, 0, 0);
         w.saw(0, 0, 0, 1);
         w.keep(1);
-        typed(w, text);
+        Told.types(w, text);
         DUE.is("strand() of [" + text + "]", w.strand(), -10 - place);
         DUE.is("strand() again of [" + text + "]", w.strand(), -10 - place);
         DUE.is("bytes left of [" + text + "]", w.count(4), text.length());
@@ -241,7 +228,7 @@ public final class PromiseTest {
     }
 
     private static void strandReadAnew() {
-        WindFrontiers w = told("g5 4;o1 4 3;o2 0 0;c4 3;c0 0;w1;");
+        WindFrontiers w = Told.strand("g5 4;o1 4 3;o2 0 0;c4 3;c0 0;w1;");
         w.tide(1);
         w.saw(1, 1, 1, 1);
         w.keep(0);
@@ -265,10 +252,10 @@ public final class PromiseTest {
 
     private static void afterAFault() {
         WindFrontiers w = new WindFrontiers();
-        typed(w, "g5 4;o1 0 0;c0 0;w1;x");
+        Told.types(w, "g5 4;o1 0 0;c0 0;w1;x");
         DUE.is("strand() with a FAULT at the end", w.strand(), -30);
         DUE.is("clear()", w.clear(), 21);
-        typed(w, "o0 0 0;c0 0;w0;");
+        Told.types(w, "o0 0 0;c0 0;w0;");
         DUE.is("strand() behind a FAULT", w.strand(), 3);
         DUE.is("WIDE", w.count(0), 3);
         DUE.is("held", w.family(0, 0), 1);
@@ -276,7 +263,7 @@ public final class PromiseTest {
     }
 
     private static void cell() {
-        WindFrontiers w = told("g5 2;o3 2 1;c1 1;");
+        WindFrontiers w = Told.strand("g5 2;o3 2 1;c1 1;");
         int[] byLeft = {0, 0, 1, 1, 0};
         int[] byRight = {1, 1, 0, 0, 0};
         for (int x = 0; x < 5; x++) {
@@ -306,20 +293,20 @@ public final class PromiseTest {
     }
 
     private static void edgesOfRows() {
-        WindFrontiers w = told("g5 2;c4 0;c3 0;c0 1;");
+        WindFrontiers w = Told.strand("g5 2;c4 0;c3 0;c0 1;");
         DUE.is("cloth at a ROW's end keeps none STILL in the next", w.cell(0, 1, 3), 0);
         DUE.is("nor the second of the next", w.cell(1, 1, 3), 1);
         DUE.is("cloth at a ROW's begin keeps none STILL in the last", w.now(4) & 31, 1 << 4);
         w.veers();
         DUE.is("by 1", w.now(4), 4 | 8 | 16 | 32);
-        WindFrontiers narrow = told("g3 2;c2 0;");
+        WindFrontiers narrow = Told.strand("g3 2;c2 0;");
         DUE.is("cloth on the last right side, by 0", narrow.now(4), 0);
         narrow.veers();
         DUE.is("cloth on the last right side, by 1", narrow.now(4), 6);
     }
 
     private static void family() {
-        WindFrontiers w = told("g5 4;o0 1 2;o0 3 1;o1 1 1;c0 2;c0 1;c3 1;");
+        WindFrontiers w = Told.strand("g5 4;o0 1 2;o0 3 1;o1 1 1;c0 2;c0 1;c3 1;");
         DUE.is("CELLS of 0", w.family(0, 0), (1 << 11) | (1 << 8));
         DUE.is("SHELTER of 0 by 0", w.family(0, 1), 1);
         DUE.is("SHELTER of 1 by 0", w.family(1, 1), 1);
@@ -344,7 +331,7 @@ public final class PromiseTest {
     }
 
     private static void takes() {
-        WindFrontiers w = told("g4 3;o1 2 2;");
+        WindFrontiers w = Told.strand("g4 3;o1 2 2;");
         DUE.is("takes(1, 0, 1)", w.takes(1, 0, 1), 2);
         DUE.is("takes(0, 0, 0)", w.takes(0, 0, 0), 1);
         DUE.is("takes of its own", w.takes(0, 0, 0), STATE);
@@ -366,7 +353,7 @@ public final class PromiseTest {
     }
 
     private static void leaves() {
-        WindFrontiers w = told("o4 1 1;o0 2 2;c1 1;");
+        WindFrontiers w = Told.strand("o4 1 1;o0 2 2;c1 1;");
         DUE.is("leaves(1, 1)", w.leaves(1, 1), 4);
         DUE.is("leaves(1, 1) again", w.leaves(1, 1), STATE);
         DUE.is("cloth of a CELL that was LEFT", w.cell(1, 1, 1), 1);
@@ -386,7 +373,7 @@ public final class PromiseTest {
     }
 
     private static void puts() {
-        WindFrontiers w = told("g5 4;c4 3;");
+        WindFrontiers w = Told.strand("g5 4;c4 3;");
         DUE.is("puts(0, 1, 1)", w.puts(0, 1, 1), 2);
         DUE.is("puts(0, 1, 1) again", w.puts(0, 1, 1), STATE);
         DUE.is("puts(1, 1, 0) of none", w.puts(1, 1, 0), STATE);
@@ -408,7 +395,7 @@ public final class PromiseTest {
     }
 
     private static void veers() {
-        WindFrontiers w = told("c0 0;");
+        WindFrontiers w = Told.strand("c0 0;");
         DUE.is("STILL by 0", w.now(4), 6);
         DUE.is("veers()", w.veers(), 1);
         DUE.is("WIND", w.now(0), 1);
@@ -418,7 +405,7 @@ public final class PromiseTest {
     }
 
     private static void tide() {
-        WindFrontiers w = told("g2 2;o0 0 0;o1 1 1;c0 0;c0 1;w1;");
+        WindFrontiers w = Told.strand("g2 2;o0 0 0;o1 1 1;c0 0;c0 1;w1;");
         DUE.is("tide(0) at 0", w.tide(0), STATE);
         DUE.is("tide(2)", w.tide(2), BAD);
         for (int far : FAR) {
@@ -440,7 +427,7 @@ public final class PromiseTest {
     }
 
     private static void undo() {
-        WindFrontiers w = told("g3 2;o2 1 0;c1 0;");
+        WindFrontiers w = Told.strand("g3 2;o2 1 0;c1 0;");
         w.takes(0, 0, 0);
         w.leaves(1, 0);
         w.puts(2, 1, 1);
@@ -470,7 +457,7 @@ public final class PromiseTest {
     }
 
     private static void tenAreKnown() {
-        WindFrontiers w = told("g5 4;");
+        WindFrontiers w = Told.strand("g5 4;");
         for (int i = 0; i < 13; i++) {
             w.takes(i % 5, i % 5, i / 5);
             DUE.is("known after " + (i + 1), w.count(3), Math.min(i + 1, 10));
@@ -485,7 +472,7 @@ public final class PromiseTest {
     }
 
     private static void refusedIsNotKnown() {
-        WindFrontiers w = told("o0 0 0;");
+        WindFrontiers w = Told.strand("o0 0 0;");
         w.takes(1, 0, 0);
         w.takes(7, 0, 0);
         w.leaves(1, 1);
@@ -508,7 +495,7 @@ public final class PromiseTest {
     }
 
     private static void now() {
-        WindFrontiers w = told("g5 4;o0 4 3;o1 0 0;c4 3;c0 0;w1;");
+        WindFrontiers w = Told.strand("g5 4;o0 4 3;o1 0 0;c4 3;c0 0;w1;");
         w.tide(1);
         DUE.is("now(0)", w.now(0), 1);
         DUE.is("now(1)", w.now(1), 1);
@@ -523,7 +510,7 @@ public final class PromiseTest {
     }
 
     private static void border() {
-        WindFrontiers w = told("g3 3;o0 1 1;");
+        WindFrontiers w = Told.strand("g3 3;o0 1 1;");
         DUE.is("BORDER about one", w.now(5), 4);
         w.takes(0, 1, 0);
         DUE.is("BORDER about two of one FAMILY", w.now(5), 5);
@@ -532,14 +519,14 @@ public final class PromiseTest {
         DUE.is("BORDER about two of unlike FAMILIES", w.now(5), 6);
         w.tide(1);
         DUE.is("BORDER with water counts nothing", w.now(5), 3);
-        WindFrontiers wide = told("g5 2;o0 4 0;o0 0 1;");
+        WindFrontiers wide = Told.strand("g5 2;o0 4 0;o0 0 1;");
         DUE.is("a ROW's end isn't beside the next one's begin", wide.now(5), 4);
-        WindFrontiers alone = told("g1 1;o0 0 0;");
+        WindFrontiers alone = Told.strand("g1 1;o0 0 0;");
         DUE.is("BORDER of one CELL", alone.now(5), 0);
     }
 
     private static void water() {
-        WindFrontiers w = told("g3 4;o0 0 1;o0 1 1;o1 0 2;o1 1 3;o2 2 2;c0 3;");
+        WindFrontiers w = Told.strand("g3 4;o0 0 1;o0 1 1;o1 0 2;o1 1 3;o2 2 2;c0 3;");
         DUE.is("around all others", w.water(0, 0, 3), 1);
         DUE.is("through one of its own", w.water(1, 0, 3), 1);
         DUE.is("its first one too", w.water(2, 1, 3), 1);
@@ -558,10 +545,10 @@ public final class PromiseTest {
             DUE.is("water(0, far, 3)", w.water(0, far, 3), BAD);
             DUE.is("water(0, 0, far)", w.water(0, 0, far), BAD);
         }
-        WindFrontiers narrow = told("g1 4;o0 0 1;o1 0 2;o2 0 3;");
+        WindFrontiers narrow = Told.strand("g1 4;o0 0 1;o1 0 2;o2 0 3;");
         DUE.is("over three others", narrow.water(3, 0, 3), 3);
         DUE.is("over two others and its own", narrow.water(1, 0, 3), 2);
-        WindFrontiers back = told("g5 4;o0 1 1;o0 1 2;o0 1 3;o0 0 0;o0 3 0;o0 3 1;o0 3 2;o0 2 0;o0 4 0;");
+        WindFrontiers back = Told.strand("g5 4;o0 1 1;o0 1 2;o0 1 3;o0 0 0;o0 3 0;o0 3 1;o0 3 2;o0 2 0;o0 4 0;");
         DUE.is("no way but over one", back.water(1, 2, 1), 1);
         DUE.is("a way up, and down again", back.water(1, 4, 1), 1);
         back.leaves(4, 0);
@@ -569,7 +556,7 @@ public final class PromiseTest {
     }
 
     private static void help() {
-        WindFrontiers w = told("g5 2;o0 2 0;o0 3 0;o0 4 1;c3 1;");
+        WindFrontiers w = Told.strand("g5 2;o0 2 0;o0 3 0;o0 4 1;c3 1;");
         DUE.is("helps most, and lowest", w.help(0, 0), 1);
         DUE.is("how much more", w.help(0, 1), 2);
         w.puts(1, 0, 1);
@@ -586,7 +573,7 @@ public final class PromiseTest {
         w.tide(1);
         DUE.is("none is DRY", w.help(0, 0), NONE);
         DUE.is("none is DRY: how much", w.help(0, 1), NONE);
-        WindFrontiers full = told("g1 2;c0 0;c0 1;");
+        WindFrontiers full = Told.strand("g1 2;c0 0;c0 1;");
         DUE.is("cloth everywhere", full.help(0, 0), NONE);
         DUE.is("cloth everywhere: how much", full.help(0, 1), NONE);
         DUE.is("help(5, 0)", full.help(5, 0), BAD);
@@ -604,7 +591,7 @@ public final class PromiseTest {
     }
 
     private static void odds() {
-        WindFrontiers w = told("g5 2;c1 0;c3 0;c1 1;");
+        WindFrontiers w = Told.strand("g5 2;c1 0;c3 0;c1 1;");
         fraction(w, 2, 0, 3, 6, 1, 1);
         fraction(w, 0, 0, 3, 0, 0, 1);
         fraction(w, 0, 0, 3, 1, 3, 10);
@@ -634,7 +621,7 @@ public final class PromiseTest {
     }
 
     private static void saw() {
-        WindFrontiers w = told("g2 2;");
+        WindFrontiers w = Told.strand("g2 2;");
         DUE.is("saw(2, 0, 0, 0)", w.saw(2, 0, 0, 0), BAD);
         DUE.is("saw(0, 2, 0, 0)", w.saw(0, 2, 0, 0), BAD);
         DUE.is("saw(0, 0, 2, 0)", w.saw(0, 0, 2, 0), BAD);
@@ -655,7 +642,7 @@ public final class PromiseTest {
     }
 
     private static void forget() {
-        WindFrontiers w = told("g4 1;c0 0;");
+        WindFrontiers w = Told.strand("g4 1;c0 0;");
         w.saw(0, 0, 0, 1);
         w.saw(0, 0, 1, 1);
         w.saw(0, 0, 1, 0);
@@ -668,7 +655,7 @@ public final class PromiseTest {
     }
 
     private static void moved() {
-        WindFrontiers w = told("g5 2;c1 0;c3 1;");
+        WindFrontiers w = Told.strand("g5 2;c1 0;c3 1;");
         DUE.is("no cloth was SEEN: ways", w.moved(0), 16);
         DUE.is("no cloth was SEEN: first", w.moved(1), 100);
         w.saw(4, 0, 0, 1);
@@ -694,13 +681,13 @@ public final class PromiseTest {
         DUE.is("DRY ones alone: first", w.moved(1), 805);
         w.saw(0, 0, 0, 1);
         DUE.is("none is STILL under water", w.moved(0), 0);
-        WindFrontiers none = told("g2 1;c0 0;c1 0;");
+        WindFrontiers none = Told.strand("g2 1;c0 0;c1 0;");
         DUE.is("no CELL without cloth", none.moved(0), 0);
         DUE.is("no CELL without cloth: first", none.moved(1), NONE);
     }
 
     private static void mark() {
-        WindFrontiers w = told("g5 4;o0 4 2;o0 0 0;");
+        WindFrontiers w = Told.strand("g5 4;o0 4 2;o0 0 0;");
         w.tide(1);
         int[] held = {2, 5, -2, 10, -1, 3};
         int[] corner = {0, 2, 0, 4, 0, 1};
@@ -710,7 +697,7 @@ public final class PromiseTest {
             DUE.is("mark(" + kind + ", 0, 0)", w.mark(kind, 0, 0), corner[kind]);
             DUE.is("mark(" + kind + ", 4, 3)", w.mark(kind, 4, 3), far[kind]);
         }
-        WindFrontiers middle = told("g3 3;o2 1 1;o2 0 0;");
+        WindFrontiers middle = Told.strand("g3 3;o2 1 1;o2 0 0;");
         DUE.is("CASTLE with four beside it", middle.mark(1, 1, 1), 5);
         DUE.is("POLAND of a HOLDER", middle.mark(4, 1, 1), 2);
         middle.tide(1);
@@ -727,7 +714,7 @@ public final class PromiseTest {
     }
 
     private static void images() {
-        WindFrontiers w = told("g3 2;o1 0 1;c1 1;w1;");
+        WindFrontiers w = Told.strand("g3 2;o1 0 1;c1 1;w1;");
         for (int far : new int[] {2, -1, Integer.MIN_VALUE, Integer.MAX_VALUE}) {
             DUE.is("keep(" + far + ")", w.keep(far), BAD);
             DUE.is("back(" + far + ")", w.back(far), BAD);
@@ -770,7 +757,7 @@ public final class PromiseTest {
     }
 
     private static void imagesOfAll() {
-        WindFrontiers w = told("g5 4;");
+        WindFrontiers w = Told.strand("g5 4;");
         for (int i = 0; i < 12; i++) {
             w.takes(0, i % 5, i / 5);
         }
@@ -787,13 +774,13 @@ public final class PromiseTest {
     }
 
     private static void count() {
-        WindFrontiers w = told("g4 1;");
+        WindFrontiers w = Told.strand("g4 1;");
         w.saw(0, 0, 0, 0);
         w.saw(0, 0, 0, 0);
         w.veers();
         w.veers();
         w.veers();
-        typed(w, "abcde");
+        Told.types(w, "abcde");
         int[] counts = {4, 1, 2, 3, 5};
         for (int what = 0; what < counts.length; what++) {
             DUE.is("count(" + what + ")", w.count(what), counts[what]);
