@@ -378,10 +378,6 @@ public final class WindFrontiers {
             return isWithin(x, wide - 1) && isWithin(y, rows - 1);
         }
 
-        int allCells() {
-            return cellsFrom(0);
-        }
-
         int dryCells() {
             return cellsFrom(tide);
         }
@@ -518,7 +514,7 @@ public final class WindFrontiers {
         }
 
         int cellsBeside(int bit) {
-            return Integer.bitCount(besideAny(bit) & allCells());
+            return Integer.bitCount(besideAny(bit) & cellsFrom(0));
         }
 
         private static int rightOf(int cells) {
